@@ -1,0 +1,97 @@
+/** Promises 17 to 19: step tests. */
+public final class StepTest {
+    private static final Check check = new Check("StepTest");
+
+    public static void main(String[] args) {
+        promise17();
+        promise18();
+        promise19();
+        check.end();
+    }
+
+    /** 0 - 1 - 2 - 3 - 4, with 5 on 2 and 6 on the source; node n has the use 2 to the n. */
+    private static Districtmeter net() {
+        Districtmeter x = new Districtmeter();
+        x.addNode(0, 2);
+        x.addNode(1, 4);
+        x.addNode(2, 8);
+        x.addNode(3, 16);
+        x.addNode(2, 32);
+        x.addNode(0, 64);
+        return x;
+    }
+
+    private static void promise17() {
+        Districtmeter x = net();
+        x.addArea(0);
+        x.addArea(1);
+        check.due("17: all pipes", 6, () -> x.steps(0));
+        check.due("17: the inlet's is none of them", 4, () -> x.steps(1));
+        x.addExport(1, 3);
+        check.due("17: nor is what is below an export", 2, () -> x.steps(1));
+        x.toggleValve(2);
+        check.due("17: nor one that is shut", 1, () -> x.steps(1));
+        check.due("17: open ones below a shut one are", 5, () -> x.steps(0));
+        x.toggleValve(2);
+        x.toggleValve(1);
+        check.due("17: whatever the inlet's valve is", 2, () -> x.steps(1));
+        x.addArea(6);
+        check.due("17: an inlet alone", 0, () -> x.steps(2));
+        check.refused("17: area -1", Check.INDEX, x, () -> x.steps(-1));
+        check.refused("17: area 3", Check.INDEX, x, () -> x.steps(3));
+    }
+
+    private static void promise18() {
+        Districtmeter x = net();
+        x.addArea(1);
+        check.due("18: the highest first", 5, () -> x.stepPipe(0, 0));
+        check.due("18: the next", 4, () -> x.stepPipe(0, 1));
+        check.due("18: the last", 2, () -> x.stepPipe(0, 3));
+        check.refused("18: one more", Check.INDEX, x, () -> x.stepPipe(0, 4));
+        x.toggleValve(4);
+        check.due("18: a shut one is passed", 3, () -> x.stepPipe(0, 1));
+        check.refused("18: one less then", Check.INDEX, x, () -> x.stepPipe(0, 3));
+        x.addExport(0, 5);
+        check.due("18: an export's is passed", 3, () -> x.stepPipe(0, 0));
+        check.refused("18: step -1", Check.INDEX, x, () -> x.stepPipe(0, -1));
+        check.refused("18: the highest int", Check.INDEX, x, () -> x.stepPipe(0, Integer.MAX_VALUE));
+        check.refused("18: the least int", Check.INDEX, x, () -> x.stepPipe(0, Integer.MIN_VALUE));
+        check.refused("18: area -1", Check.INDEX, x, () -> x.stepPipe(-1, 0));
+        check.refused("18: area 1", Check.INDEX, x, () -> x.stepPipe(1, 0));
+        Districtmeter y = new Districtmeter();
+        for (int node = 1; node <= 15; node++) {
+            y.addNode(0, 0);
+        }
+        y.addArea(0);
+        check.due("18: the 16th node's", 15, () -> y.stepPipe(0, 0));
+        check.due("18: the 15th step", 1, () -> y.stepPipe(0, 14));
+        check.due("18: no 16th step", Check.INDEX, () -> y.stepPipe(0, 15));
+    }
+
+    private static void promise19() {
+        Districtmeter x = net();
+        x.addArea(1);
+        check.due("19: the highest pipe", 32, () -> x.drop(0, 0));
+        check.due("19: the next", 16, () -> x.drop(0, 1));
+        check.due("19: what was shut before is no part", 8, () -> x.drop(0, 2));
+        check.due("19: the last", 4, () -> x.drop(0, 3));
+        check.due("19: only thought", 126, () -> x.allFlow());
+        x.setBackground(4, 100);
+        x.setPressure(4, 60);
+        check.due("19: with leakage", 145, () -> x.drop(0, 1));
+        x.toggleValve(3);
+        check.due("19: below a shut valve", 0, () -> x.drop(0, 1));
+        check.due("19: the step behind it", 4, () -> x.drop(0, 2));
+        check.refused("19: one more", Check.INDEX, x, () -> x.drop(0, 3));
+        x.toggleValve(3);
+        x.addExport(0, 4);
+        check.due("19: the export is none of the area's flow", 8, () -> x.drop(0, 1));
+        check.due("19: the last above an export", 4, () -> x.drop(0, 2));
+        x.toggleValve(1);
+        check.due("19: a shut inlet", 0, () -> x.drop(0, 0));
+        check.refused("19: step -1", Check.INDEX, x, () -> x.drop(0, -1));
+        check.refused("19: the highest int", Check.INDEX, x, () -> x.drop(0, Integer.MAX_VALUE));
+        check.refused("19: area -1", Check.INDEX, x, () -> x.drop(-1, 0));
+        check.refused("19: area 1", Check.INDEX, x, () -> x.drop(1, 0));
+    }
+}
