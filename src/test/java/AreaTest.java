@@ -133,6 +133,15 @@ public final class AreaTest {
         check.due("14: a meter at the export alone", Check.STATE, () -> x.areaFlow(0));
         x.addMeter(2);
         check.due("14: at both", 36, () -> x.areaFlow(0));
+        Districtmeter y = new Districtmeter();
+        for (int node = 1; node <= 15; node++) {
+            y.addNode(node - 1, node);
+        }
+        y.addArea(0);
+        y.addExport(0, 15);
+        check.due("14: the 16th node is an export without a meter", Check.STATE, () -> y.areaFlow(0));
+        y.addMeter(15);
+        check.due("14: the 16th node is an export", 105, () -> y.areaFlow(0));
     }
 
     private static void promise15() {
@@ -148,6 +157,9 @@ public final class AreaTest {
         x.toggleValve(5);
         check.due("15: those that are supplied", 4, () -> x.areaTakes(0));
         check.due("15: of the other area", 94, () -> x.areaTakes(1));
+        x.setBackground(0, 500);
+        check.due("15: the source is a node of it, too", 594, () -> x.areaTakes(1));
+        check.due("15: and of its flow", 594, () -> x.areaFlow(1));
         check.refused("15: area -1", Check.INDEX, x, () -> x.areaTakes(-1));
         check.refused("15: area 2", Check.INDEX, x, () -> x.areaTakes(2));
     }
@@ -171,6 +183,8 @@ public final class AreaTest {
         check.due("16: without those below an export", 0, () -> x.loss(0));
         x.toggleValve(1);
         check.due("16: all shut", 0, () -> x.loss(0));
+        x.setBackground(0, 500);
+        check.due("16: the source's leakage", 507, () -> x.loss(1));
         check.refused("16: area -1", Check.INDEX, x, () -> x.loss(-1));
         check.refused("16: area 2", Check.INDEX, x, () -> x.loss(2));
     }
