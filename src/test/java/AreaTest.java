@@ -12,20 +12,8 @@ public final class AreaTest {
         check.end();
     }
 
-    /** 0 - 1 - 2 - 3 - 4, with 5 on 2 and 6 on the source; node n has the use 2 to the n. */
-    private static Districtmeter net() {
-        Districtmeter x = new Districtmeter();
-        x.addNode(0, 2);
-        x.addNode(1, 4);
-        x.addNode(2, 8);
-        x.addNode(3, 16);
-        x.addNode(2, 32);
-        x.addNode(0, 64);
-        return x;
-    }
-
     private static void promise11() {
-        Districtmeter x = net();
+        Districtmeter x = Nets.branched();
         check.due("11: the first", 0, () -> x.addArea(2));
         check.due("11: without exports", 0b111100, () -> x.nodes(0));
         check.due("11: the same inlet again", 1, () -> x.addArea(2));
@@ -41,7 +29,7 @@ public final class AreaTest {
     }
 
     private static void promise12() {
-        Districtmeter x = net();
+        Districtmeter x = Nets.branched();
         x.addArea(1);
         x.addArea(1);
         check.due("12: a branch of two", 3, () -> x.addExport(0, 3));
@@ -61,7 +49,7 @@ public final class AreaTest {
     }
 
     private static void promise13() {
-        Districtmeter x = net();
+        Districtmeter x = Nets.branched();
         x.addArea(0);
         x.addArea(2);
         check.due("13: all", 0b1111111, () -> x.nodes(0));
@@ -77,10 +65,7 @@ public final class AreaTest {
         x.addNode(5, 0);
         check.due("13: a node added below the inlet", 0b10011100, () -> x.nodes(1));
         check.due("13: and one below an export", 0b1000011, () -> x.nodes(0));
-        Districtmeter y = new Districtmeter();
-        for (int node = 1; node <= 15; node++) {
-            y.addNode(node - 1, 0);
-        }
+        Districtmeter y = Nets.line();
         y.addArea(0);
         check.due("13: the 16th node", 65535, () -> y.nodes(0));
         y.addExport(0, 15);
@@ -91,7 +76,7 @@ public final class AreaTest {
     }
 
     private static void promise14() {
-        Districtmeter x = net();
+        Districtmeter x = Nets.branched();
         x.addArea(0);
         x.addArea(2);
         check.due("14: all flow wants no meter", 126, () -> x.areaFlow(0));
@@ -126,17 +111,14 @@ public final class AreaTest {
 
     /** The inlet's own meter is wanted, too, where only the export has one. */
     private static void promise14InletOfExports() {
-        Districtmeter x = net();
+        Districtmeter x = Nets.branched();
         x.addArea(2);
         x.addExport(0, 3);
         x.addMeter(3);
         check.due("14: a meter at the export alone", Check.STATE, () -> x.areaFlow(0));
         x.addMeter(2);
         check.due("14: at both", 36, () -> x.areaFlow(0));
-        Districtmeter y = new Districtmeter();
-        for (int node = 1; node <= 15; node++) {
-            y.addNode(node - 1, node);
-        }
+        Districtmeter y = Nets.line();
         y.addArea(0);
         y.addExport(0, 15);
         check.due("14: the 16th node is an export without a meter", Check.STATE, () -> y.areaFlow(0));
@@ -145,7 +127,7 @@ public final class AreaTest {
     }
 
     private static void promise15() {
-        Districtmeter x = net();
+        Districtmeter x = Nets.branched();
         x.addArea(2);
         x.addArea(0);
         check.due("15: no meter is wanted", 60, () -> x.areaTakes(0));
@@ -165,7 +147,7 @@ public final class AreaTest {
     }
 
     private static void promise16() {
-        Districtmeter x = net();
+        Districtmeter x = Nets.branched();
         x.addArea(1);
         x.addArea(0);
         check.due("16: uses are no loss", 0, () -> x.loss(0));

@@ -9,20 +9,8 @@ public final class StepTest {
         check.end();
     }
 
-    /** 0 - 1 - 2 - 3 - 4, with 5 on 2 and 6 on the source; node n has the use 2 to the n. */
-    private static Districtmeter net() {
-        Districtmeter x = new Districtmeter();
-        x.addNode(0, 2);
-        x.addNode(1, 4);
-        x.addNode(2, 8);
-        x.addNode(3, 16);
-        x.addNode(2, 32);
-        x.addNode(0, 64);
-        return x;
-    }
-
     private static void promise17() {
-        Districtmeter x = net();
+        Districtmeter x = Nets.branched();
         x.addArea(0);
         x.addArea(1);
         check.due("17: all pipes", 6, () -> x.steps(0));
@@ -42,7 +30,7 @@ public final class StepTest {
     }
 
     private static void promise18() {
-        Districtmeter x = net();
+        Districtmeter x = Nets.branched();
         x.addArea(1);
         check.due("18: the highest first", 5, () -> x.stepPipe(0, 0));
         check.due("18: the next", 4, () -> x.stepPipe(0, 1));
@@ -69,7 +57,7 @@ public final class StepTest {
     }
 
     private static void promise19() {
-        Districtmeter x = net();
+        Districtmeter x = Nets.branched();
         x.addArea(1);
         check.due("19: the highest pipe", 32, () -> x.drop(0, 0));
         check.due("19: the next", 16, () -> x.drop(0, 1));
