@@ -1,4 +1,4 @@
-/** Promises 20 to 24: bursts. */
+/** Promises 20 to 24, bursts: what their calls answer; BurstLimitTest has their limits. */
 public final class BurstTest {
     private static final Check check = new Check("BurstTest");
 
@@ -13,34 +13,23 @@ public final class BurstTest {
     }
 
     private static void promise20() {
-        Districtmeter x = new Districtmeter();
+        Desk x = new Desk();
         x.addNode(0, 0);
         check.due("20: least amount and hours", 0, () -> x.burst(1, 1, 1));
         check.due("20: most amount and hours", 1, () -> x.burst(1, 10000, 100));
         check.due("20: both leak", 10001, () -> x.takes(1));
         check.due("20: at the source", 2, () -> x.burst(0, 5, 50));
         check.due("20: that leaks, too", 5, () -> x.takes(0));
-        check.refused("20: amount 0", Check.ARGUMENT, x, () -> x.burst(1, 0, 1));
-        check.refused("20: amount 10001", Check.ARGUMENT, x, () -> x.burst(1, 10001, 1));
-        check.refused("20: hours 0", Check.ARGUMENT, x, () -> x.burst(1, 1, 0));
-        check.refused("20: hours 101", Check.ARGUMENT, x, () -> x.burst(1, 1, 101));
-        check.refused("20: node -1", Check.INDEX, x, () -> x.burst(-1, 1, 1));
-        check.refused("20: node 2", Check.INDEX, x, () -> x.burst(2, 1, 1));
-        check.refused("20: amount ahead of node", Check.ARGUMENT, x, () -> x.burst(2, 0, 1));
-        check.refused("20: hours ahead of node", Check.ARGUMENT, x, () -> x.burst(2, 1, 101));
         x.repair(0);
         for (int burst = 3; burst <= 19; burst++) {
             check.due("20: burst " + burst, burst, () -> x.burst(1, 1, 1));
         }
         check.due("20: the 20th costs", 1, () -> x.cost(19));
         check.refused("20: one more than 20, though one is repaired", Check.STATE, x, () -> x.burst(1, 1, 1));
-        check.refused("20: node ahead of state", Check.INDEX, x, () -> x.burst(2, 1, 1));
-        check.refused("20: amount ahead of state", Check.ARGUMENT, x, () -> x.burst(1, 10001, 1));
-        check.refused("20: hours ahead of state", Check.ARGUMENT, x, () -> x.burst(1, 1, 0));
     }
 
     private static void promise21() {
-        Districtmeter x = new Districtmeter();
+        Desk x = new Desk();
         x.addNode(0, 3);
         x.setBackground(1, 7);
         x.burst(1, 10, 1);
@@ -57,13 +46,10 @@ public final class BurstTest {
         x.toggleValve(1);
         check.due("21: it is repaired all the same", 49, () -> x.allFlow());
         check.due("21: at the source", 40, () -> x.repair(2));
-        check.refused("21: burst -1", Check.INDEX, x, () -> x.repair(-1));
-        check.refused("21: burst 3", Check.INDEX, x, () -> x.repair(3));
-        check.refused("21: burst 32", Check.INDEX, x, () -> x.repair(32));
     }
 
     private static void promise22() {
-        Districtmeter x = new Districtmeter();
+        Desk x = new Desk();
         x.addNode(0, 0);
         x.addNode(0, 0);
         x.burst(1, 1, 1);
@@ -83,12 +69,10 @@ public final class BurstTest {
         check.due("22: where nothing is supplied", 0, () -> x.cost(1));
         x.toggleValve(1);
         check.due("22: supplied again", 1, () -> x.cost(1));
-        check.refused("22: burst -1", Check.INDEX, x, () -> x.cost(-1));
-        check.refused("22: burst 3", Check.INDEX, x, () -> x.cost(3));
     }
 
     private static void promise23() {
-        Districtmeter x = new Districtmeter();
+        Desk x = new Desk();
         x.addNode(0, 0);
         x.addNode(0, 0);
         check.due("23: no burst", Check.INDEX, () -> x.ranked(0));
@@ -102,9 +86,6 @@ public final class BurstTest {
         check.due("23: 5 / 3", 1, () -> x.ranked(2));
         check.due("23: 10 / 6 is the same", 2, () -> x.ranked(3));
         check.due("23: 1 / 100", 4, () -> x.ranked(4));
-        check.refused("23: place 5", Check.INDEX, x, () -> x.ranked(5));
-        check.refused("23: place -1", Check.INDEX, x, () -> x.ranked(-1));
-        check.refused("23: the highest int", Check.INDEX, x, () -> x.ranked(Integer.MAX_VALUE));
         x.setPressure(2, 80);
         check.due("23: by the pressure as it is", 3, () -> x.ranked(0));
         check.due("23: by the pressure as it is", 2, () -> x.ranked(1));
@@ -116,12 +97,11 @@ public final class BurstTest {
         check.due("23: without cost by number", 4, () -> x.ranked(4));
         x.repair(2);
         check.due("23: a repaired one has no rank", 3, () -> x.ranked(2));
-        check.refused("23: place 4 then", Check.INDEX, x, () -> x.ranked(4));
         promise23Twenty();
     }
 
     private static void promise23Twenty() {
-        Districtmeter x = new Districtmeter();
+        Desk x = new Desk();
         for (int i = 0; i < 20; i++) {
             x.burst(0, 1 + i, 1);
         }
@@ -130,7 +110,7 @@ public final class BurstTest {
             check.due("23: place " + i + " of 20", 19 - i, () -> x.ranked(place));
         }
         check.due("23: place 20 of 20", Check.INDEX, () -> x.ranked(20));
-        Districtmeter y = new Districtmeter();
+        Desk y = new Desk();
         y.addNode(0, 0);
         y.setPressure(1, 100);
         y.burst(1, 9999, 99);
@@ -142,7 +122,7 @@ public final class BurstTest {
     }
 
     private static void promise24() {
-        Districtmeter x = new Districtmeter();
+        Desk x = new Desk();
         check.due("24: no burst", 0, () -> x.plan(1000));
         x.addNode(0, 0);
         x.burst(0, 10, 10);
@@ -164,19 +144,16 @@ public final class BurstTest {
         check.due("24: by the ranks as they are now", 0b1101, () -> x.plan(16));
         x.repair(2);
         check.due("24: without a repaired one", 0b1001, () -> x.plan(16));
-        check.refused("24: hours -1", Check.ARGUMENT, x, () -> x.plan(-1));
-        check.refused("24: hours 1001", Check.ARGUMENT, x, () -> x.plan(1001));
-        check.refused("24: the highest int", Check.ARGUMENT, x, () -> x.plan(Integer.MAX_VALUE));
     }
 
     private static void promise24Edges() {
-        Districtmeter x = new Districtmeter();
+        Desk x = new Desk();
         for (int i = 0; i < 20; i++) {
             x.burst(0, 10, 100);
         }
         check.due("24: ten of twenty", 0b1111111111, () -> x.plan(1000));
         check.due("24: nine of twenty", 0b111111111, () -> x.plan(999));
-        Districtmeter y = new Districtmeter();
+        Desk y = new Desk();
         for (int i = 0; i < 20; i++) {
             y.burst(0, 1 + i, 50);
         }
@@ -187,7 +164,7 @@ public final class BurstTest {
 
     /** Without burst 0, burst 1 would cost nothing, since its node's leakage is rounded down. */
     private static void promise24RanksStay() {
-        Districtmeter x = new Districtmeter();
+        Desk x = new Desk();
         x.addNode(0, 0);
         x.setPressure(1, 30);
         x.burst(1, 4, 1);

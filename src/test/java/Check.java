@@ -1,11 +1,16 @@
-import java.util.ArrayList;
 import java.util.List;
+import java.util.function.IntFunction;
 
 /** Counts the checks of one test program and prints those that go wrong. */
 final class Check {
     static final String ARGUMENT = "throws.IllegalArgumentException";
     static final String INDEX = "throws.IndexOutOfBoundsException";
     static final String STATE = "throws.IllegalStateException";
+
+    /** Beyond each range of the document, but some fall into one where a shift, a byte or a short cuts them. */
+    private static final int[] FAR = {
+        Integer.MIN_VALUE, Integer.MIN_VALUE + 1, -65535, -255, -63, -31, -2,
+        32, 33, 64, 256, 257, 65536, 65537, 1 << 30, Integer.MAX_VALUE - 1, Integer.MAX_VALUE};
 
     interface Call {
         Object run();
@@ -33,10 +38,34 @@ final class Check {
     }
 
     /** Checks also that the call changes nothing that can be asked for. */
-    void refused(String what, String want, Districtmeter x, Call call) {
-        List<String> before = everythingOf(x);
+    void refused(String what, String want, Desk x, Call call) {
+        int before = x.calls();
         same(what, want, answer(call));
-        same(what + ": state behind it", before.toString(), everythingOf(x).toString());
+        if (x.calls() != before + 1) {
+            throw new AssertionError(what + " is not one call of the desk");
+        }
+        List<String> due = x.everythingBehind(before);
+        List<String> got = x.everythingBehind(before + 1);
+        checks++;
+        if (!due.equals(got)) {
+            wrong++;
+            for (int i = 0; i < due.size(); i++) {
+                if (!due.get(i).equals(got.get(i))) {
+                    System.out.println(program + ": behind " + what + ", refused, " + got.get(i) + "; without it, " + due.get(i));
+                }
+            }
+        }
+    }
+
+    /** Checks that every number next to a range, and some far beyond it, is refused and changes nothing. */
+    void refusedBeyond(String what, String want, Desk x, int least, int most, IntFunction<Object> call) {
+        refused(what + " " + (least - 1), want, x, () -> call.apply(least - 1));
+        refused(what + " " + (most + 1), want, x, () -> call.apply(most + 1));
+        for (int number : FAR) {
+            if (number < least || number > most) {
+                refused(what + " " + number, want, x, () -> call.apply(number));
+            }
+        }
     }
 
     void same(String what, String want, String got) {
@@ -52,40 +81,5 @@ final class Check {
         if (wrong != 0) {
             System.exit(1);
         }
-    }
-
-    /** The answers of all calls that only ask. */
-    static List<String> everythingOf(Districtmeter x) {
-        List<String> all = new ArrayList<>();
-        all.add(answer(x::allFlow));
-        for (int i = -1; i <= 16; i++) {
-            int node = i;
-            all.add(answer(() -> x.isSupplied(node)));
-            all.add(answer(() -> x.takes(node)));
-            all.add(answer(() -> x.flow(node)));
-        }
-        for (int i = -1; i <= 8; i++) {
-            int area = i;
-            all.add(answer(() -> x.nodes(area)));
-            all.add(answer(() -> x.areaFlow(area)));
-            all.add(answer(() -> x.areaTakes(area)));
-            all.add(answer(() -> x.loss(area)));
-            all.add(answer(() -> x.steps(area)));
-            for (int j = -1; j <= 16; j++) {
-                int step = j;
-                all.add(answer(() -> x.stepPipe(area, step)));
-                all.add(answer(() -> x.drop(area, step)));
-            }
-        }
-        for (int i = -1; i <= 20; i++) {
-            int number = i;
-            all.add(answer(() -> x.cost(number)));
-            all.add(answer(() -> x.ranked(number)));
-        }
-        for (int i = -1; i <= 1001; i += 13) {
-            int hours = i;
-            all.add(answer(() -> x.plan(hours)));
-        }
-        return all;
     }
 }

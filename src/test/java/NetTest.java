@@ -1,4 +1,4 @@
-/** Promises 1 to 10: the net. */
+/** Promises 1 to 10, the net: what its calls answer; NetLimitTest has their limits. */
 public final class NetTest {
     private static final Check check = new Check("NetTest");
 
@@ -18,7 +18,7 @@ public final class NetTest {
     }
 
     private static void promise1() {
-        Districtmeter x = new Districtmeter();
+        Desk x = new Desk();
         check.due("1: all flow of a new net", 0, () -> x.allFlow());
         check.due("1: the source is there", true, () -> x.isSupplied(0));
         check.due("1: the source takes nothing", 0, () -> x.takes(0));
@@ -26,41 +26,31 @@ public final class NetTest {
         check.due("1: no area", Check.INDEX, () -> x.nodes(0));
         check.due("1: no burst", Check.INDEX, () -> x.cost(0));
         check.due("1: nothing to plan", 0, () -> x.plan(1000));
-        Districtmeter y = new Districtmeter();
+        Desk y = new Desk();
         y.addNode(0, 5);
         check.due("1: two nets share nothing", 0, () -> x.allFlow());
         check.due("1: two nets share nothing", Check.INDEX, () -> x.takes(1));
     }
 
     private static void promise2() {
-        Districtmeter x = new Districtmeter();
+        Desk x = new Desk();
         check.due("2: use 0", 1, () -> x.addNode(0, 0));
         check.due("2: use 10000", 2, () -> x.addNode(1, 10000));
         check.due("2: takes its use", 0, () -> x.takes(1));
         check.due("2: takes its use", 10000, () -> x.takes(2));
-        check.refused("2: use -1", Check.ARGUMENT, x, () -> x.addNode(0, -1));
-        check.refused("2: use 10001", Check.ARGUMENT, x, () -> x.addNode(0, 10001));
-        check.refused("2: least use", Check.ARGUMENT, x, () -> x.addNode(0, Integer.MIN_VALUE));
-        check.refused("2: on -1", Check.INDEX, x, () -> x.addNode(-1, 5));
-        check.refused("2: on itself", Check.INDEX, x, () -> x.addNode(3, 5));
-        check.refused("2: on the highest int", Check.INDEX, x, () -> x.addNode(Integer.MAX_VALUE, 5));
-        check.refused("2: use ahead of node", Check.ARGUMENT, x, () -> x.addNode(3, 10001));
         for (int node = 3; node <= 15; node++) {
             int use = node;
             check.due("2: node " + node, node, () -> x.addNode(2, use));
         }
         check.due("2: the 16th node takes its use", 15, () -> x.takes(15));
         check.refused("2: one more than 16", Check.STATE, x, () -> x.addNode(0, 0));
-        check.refused("2: node ahead of state", Check.INDEX, x, () -> x.addNode(16, 0));
-        check.refused("2: use ahead of state", Check.ARGUMENT, x, () -> x.addNode(0, -1));
-        check.refused("2: use ahead of all", Check.ARGUMENT, x, () -> x.addNode(-1, 10001));
         x.toggleValve(2);
         check.due("2: hangs on the node it was told", false, () -> x.isSupplied(15));
         check.due("2: does not hang on what is below", true, () -> x.isSupplied(1));
     }
 
     private static void promise3() {
-        Districtmeter x = new Districtmeter();
+        Desk x = new Desk();
         x.addNode(0, 7);
         check.due("3: amount 10000", 10000, () -> x.setBackground(1, 10000));
         check.due("3: the amount counts", 10007, () -> x.takes(1));
@@ -73,17 +63,12 @@ public final class NetTest {
         check.due("3: told where nothing is supplied", 109, () -> x.setBackground(1, 100));
         check.due("3: amount 0", 36, () -> x.setBackground(1, 0));
         check.due("3: background of the source", 9, () -> x.setBackground(0, 9));
-        check.refused("3: amount -1", Check.ARGUMENT, x, () -> x.setBackground(0, -1));
-        check.refused("3: amount 10001", Check.ARGUMENT, x, () -> x.setBackground(0, 10001));
-        check.refused("3: node -1", Check.INDEX, x, () -> x.setBackground(-1, 1));
-        check.refused("3: node 2", Check.INDEX, x, () -> x.setBackground(2, 1));
-        check.refused("3: amount ahead of node", Check.ARGUMENT, x, () -> x.setBackground(2, 10001));
         x.repair(0);
         check.due("3: a repaired burst counts no more", 73, () -> x.setBackground(1, 100));
     }
 
     private static void promise4() {
-        Districtmeter x = new Districtmeter();
+        Desk x = new Desk();
         x.addNode(0, 0);
         x.addNode(1, 0);
         x.addNode(2, 0);
@@ -101,18 +86,12 @@ public final class NetTest {
         x.toggleValve(1);
         check.due("4: a shut valve is nothing to it", 70, () -> x.setPressure(1, 70));
         check.due("4: below a shut valve", 70, () -> x.setPressure(3, -1));
-        check.refused("4: pressure -2", Check.ARGUMENT, x, () -> x.setPressure(1, -2));
-        check.refused("4: pressure 101", Check.ARGUMENT, x, () -> x.setPressure(1, 101));
-        check.refused("4: the source has no pipe", Check.INDEX, x, () -> x.setPressure(0, 50));
-        check.refused("4: pipe -1", Check.INDEX, x, () -> x.setPressure(-1, 50));
-        check.refused("4: pipe 5", Check.INDEX, x, () -> x.setPressure(5, 50));
-        check.refused("4: pressure ahead of pipe", Check.ARGUMENT, x, () -> x.setPressure(0, 101));
     }
 
     /** The factors are read off a node whose background of 1000 makes its leakage the factor. */
     private static void promise4Factors() {
         int[] factors = {0, 120, 280, 490, 730, 1000, 1290, 1600, 1930, 2280, 2650};
-        Districtmeter x = new Districtmeter();
+        Desk x = new Desk();
         x.addNode(0, 0);
         x.setBackground(1, 1000);
         for (int pressure = 0; pressure <= 100; pressure++) {
@@ -125,7 +104,7 @@ public final class NetTest {
     }
 
     private static void promise5() {
-        Districtmeter x = new Districtmeter();
+        Desk x = new Desk();
         x.addNode(0, 4);
         x.addNode(1, 5);
         check.due("5: it had none", true, () -> x.addMeter(2));
@@ -133,15 +112,10 @@ public final class NetTest {
         check.due("5: the other had none", Check.STATE, () -> x.flow(1));
         check.due("5: the other had none", true, () -> x.addMeter(1));
         check.due("5: it stays", 5, () -> x.flow(2));
-        check.refused("5: the source has no pipe", Check.INDEX, x, () -> x.addMeter(0));
-        check.refused("5: pipe -1", Check.INDEX, x, () -> x.addMeter(-1));
-        check.refused("5: pipe 3", Check.INDEX, x, () -> x.addMeter(3));
-        x.addNode(0, 0);
-        check.due("5: a refused call gave no meter", true, () -> x.addMeter(3));
     }
 
     private static void promise6() {
-        Districtmeter x = new Districtmeter();
+        Desk x = new Desk();
         x.addNode(0, 4);
         x.addNode(1, 5);
         check.due("6: shuts", false, () -> x.toggleValve(1));
@@ -149,15 +123,10 @@ public final class NetTest {
         check.due("6: opens", true, () -> x.toggleValve(1));
         check.due("6: the other is still shut", false, () -> x.isSupplied(2));
         check.due("6: opens the other", true, () -> x.toggleValve(2));
-        check.refused("6: the source has no pipe", Check.INDEX, x, () -> x.toggleValve(0));
-        check.refused("6: pipe -1", Check.INDEX, x, () -> x.toggleValve(-1));
-        check.refused("6: pipe 3", Check.INDEX, x, () -> x.toggleValve(3));
-        x.addNode(0, 0);
-        check.due("6: a refused call shut nothing", true, () -> x.isSupplied(3));
     }
 
     private static void promise7() {
-        Districtmeter x = new Districtmeter();
+        Desk x = new Desk();
         x.addNode(0, 1);
         x.addNode(1, 1);
         x.addNode(2, 1);
@@ -175,13 +144,10 @@ public final class NetTest {
         check.due("7: one of two opened", false, () -> x.isSupplied(5));
         x.toggleValve(3);
         check.due("7: both opened", true, () -> x.isSupplied(5));
-        check.refused("7: node -1", Check.INDEX, x, () -> x.isSupplied(-1));
-        check.refused("7: node 6", Check.INDEX, x, () -> x.isSupplied(6));
-        check.refused("7: node 32", Check.INDEX, x, () -> x.isSupplied(32));
     }
 
     private static void promise8() {
-        Districtmeter x = new Districtmeter();
+        Desk x = new Desk();
         x.addNode(0, 10);
         x.addNode(1, 20);
         x.setBackground(2, 3);
@@ -196,9 +162,7 @@ public final class NetTest {
         check.due("8: not supplied", 0, () -> x.takes(2));
         x.toggleValve(1);
         check.due("8: supplied again", 26, () -> x.takes(2));
-        check.refused("8: node -1", Check.INDEX, x, () -> x.takes(-1));
-        check.refused("8: node 3", Check.INDEX, x, () -> x.takes(3));
-        Districtmeter y = new Districtmeter();
+        Desk y = new Desk();
         y.addNode(0, 10000);
         y.setBackground(1, 10000);
         y.setPressure(1, 100);
@@ -209,7 +173,7 @@ public final class NetTest {
     }
 
     private static void promise9() {
-        Districtmeter x = new Districtmeter();
+        Desk x = new Desk();
         x.addNode(0, 1);
         x.addNode(1, 10);
         x.addNode(2, 100);
@@ -226,13 +190,10 @@ public final class NetTest {
         check.due("9: less what is shut below", 10, () -> x.flow(2));
         x.toggleValve(1);
         check.due("9: shut above", 0, () -> x.flow(2));
-        check.refused("9: the source has no pipe", Check.INDEX, x, () -> x.flow(0));
-        check.refused("9: pipe -1", Check.INDEX, x, () -> x.flow(-1));
-        check.refused("9: pipe 5", Check.INDEX, x, () -> x.flow(5));
     }
 
     private static void promise10() {
-        Districtmeter x = new Districtmeter();
+        Desk x = new Desk();
         x.setBackground(0, 10000);
         check.due("10: the source takes, too", 10000, () -> x.allFlow());
         x.addNode(0, 1);
@@ -241,7 +202,7 @@ public final class NetTest {
         check.due("10: all nodes", 10111, () -> x.allFlow());
         x.toggleValve(1);
         check.due("10: those that are supplied", 10100, () -> x.allFlow());
-        Districtmeter y = new Districtmeter();
+        Desk y = new Desk();
         for (int node = 1; node <= 15; node++) {
             y.addNode(node - 1, 10000);
             y.setBackground(node, 10000);

@@ -4,8 +4,8 @@ final class Nets {
     }
 
     /** 0 - 1 - 2 - 3 - 4, with 5 on 2 and 6 on the source; node n but the source has the use 2 to the n. */
-    static Districtmeter branched() {
-        Districtmeter x = new Districtmeter();
+    static Desk branched() {
+        Desk x = new Desk();
         x.addNode(0, 2);
         x.addNode(1, 4);
         x.addNode(2, 8);
@@ -16,8 +16,8 @@ final class Nets {
     }
 
     /** 16 nodes, each on the one before; node n has the use n. */
-    static Districtmeter line() {
-        Districtmeter x = new Districtmeter();
+    static Desk line() {
+        Desk x = new Desk();
         for (int node = 1; node <= 15; node++) {
             x.addNode(node - 1, node);
         }

@@ -1,4 +1,4 @@
-/** Promises 17 to 19: step tests. */
+/** Promises 17 to 19, step tests: what their calls answer; AreaLimitTest has their limits. */
 public final class StepTest {
     private static final Check check = new Check("StepTest");
 
@@ -10,7 +10,7 @@ public final class StepTest {
     }
 
     private static void promise17() {
-        Districtmeter x = Nets.branched();
+        Desk x = Nets.branched();
         x.addArea(0);
         x.addArea(1);
         check.due("17: all pipes", 6, () -> x.steps(0));
@@ -25,28 +25,19 @@ public final class StepTest {
         check.due("17: whatever the inlet's valve is", 2, () -> x.steps(1));
         x.addArea(6);
         check.due("17: an inlet alone", 0, () -> x.steps(2));
-        check.refused("17: area -1", Check.INDEX, x, () -> x.steps(-1));
-        check.refused("17: area 3", Check.INDEX, x, () -> x.steps(3));
     }
 
     private static void promise18() {
-        Districtmeter x = Nets.branched();
+        Desk x = Nets.branched();
         x.addArea(1);
         check.due("18: the highest first", 5, () -> x.stepPipe(0, 0));
         check.due("18: the next", 4, () -> x.stepPipe(0, 1));
         check.due("18: the last", 2, () -> x.stepPipe(0, 3));
-        check.refused("18: one more", Check.INDEX, x, () -> x.stepPipe(0, 4));
         x.toggleValve(4);
         check.due("18: a shut one is passed", 3, () -> x.stepPipe(0, 1));
-        check.refused("18: one less then", Check.INDEX, x, () -> x.stepPipe(0, 3));
         x.addExport(0, 5);
         check.due("18: an export's is passed", 3, () -> x.stepPipe(0, 0));
-        check.refused("18: step -1", Check.INDEX, x, () -> x.stepPipe(0, -1));
-        check.refused("18: the highest int", Check.INDEX, x, () -> x.stepPipe(0, Integer.MAX_VALUE));
-        check.refused("18: the least int", Check.INDEX, x, () -> x.stepPipe(0, Integer.MIN_VALUE));
-        check.refused("18: area -1", Check.INDEX, x, () -> x.stepPipe(-1, 0));
-        check.refused("18: area 1", Check.INDEX, x, () -> x.stepPipe(1, 0));
-        Districtmeter y = new Districtmeter();
+        Desk y = new Desk();
         for (int node = 1; node <= 15; node++) {
             y.addNode(0, 0);
         }
@@ -57,7 +48,7 @@ public final class StepTest {
     }
 
     private static void promise19() {
-        Districtmeter x = Nets.branched();
+        Desk x = Nets.branched();
         x.addArea(1);
         check.due("19: the highest pipe", 32, () -> x.drop(0, 0));
         check.due("19: the next", 16, () -> x.drop(0, 1));
@@ -70,16 +61,11 @@ public final class StepTest {
         x.toggleValve(3);
         check.due("19: below a shut valve", 0, () -> x.drop(0, 1));
         check.due("19: the step behind it", 4, () -> x.drop(0, 2));
-        check.refused("19: one more", Check.INDEX, x, () -> x.drop(0, 3));
         x.toggleValve(3);
         x.addExport(0, 4);
         check.due("19: the export is none of the area's flow", 8, () -> x.drop(0, 1));
         check.due("19: the last above an export", 4, () -> x.drop(0, 2));
         x.toggleValve(1);
         check.due("19: a shut inlet", 0, () -> x.drop(0, 0));
-        check.refused("19: step -1", Check.INDEX, x, () -> x.drop(0, -1));
-        check.refused("19: the highest int", Check.INDEX, x, () -> x.drop(0, Integer.MAX_VALUE));
-        check.refused("19: area -1", Check.INDEX, x, () -> x.drop(-1, 0));
-        check.refused("19: area 1", Check.INDEX, x, () -> x.drop(1, 0));
     }
 }
